@@ -554,10 +554,6 @@ public final class SkittleRow {
             this.laws = many > 0 && many < LAWS_THAT_HIT.length ? LAWS_THAT_HIT[many] : 0;
         }
 
-        boolean standsIn(int state) {
-            return (state & mask) == mask;
-        }
-
         boolean hasEndIn(int state) {
             return (state & behind) == 0 || (state & ahead) == 0;
         }
@@ -579,8 +575,10 @@ public final class SkittleRow {
         final boolean[] ring = new boolean[ROWS_MOST];
         final int[] behind = new int[PLACES_MOST];
         final int[] ahead = new int[PLACES_MOST];
-        /** By places, then by many; also those that are not hit here, since other laws may hit them. */
+        /** By places, then by many, those of so many as may be knocked down here. */
         Stroke[] strokes = new Stroke[0];
+        /** Likewise, but of 1 to 4, since other laws may have them. */
+        Stroke[] strokesOfAnyLaw = new Stroke[0];
         final int[] plainWorths = new int[PLAIN_MOST + 1];
 
         void addPlace(boolean stands) {
@@ -624,22 +622,38 @@ public final class SkittleRow {
                     at = ahead[at];
                 }
             }
-            strokes = new Stroke[size];
+            strokesOfAnyLaw = chosen(list, size, 15);
+            strokes = chosen(list, size, hits);
+        }
+
+        /** Of the first ones of a list those of so many as a set of hits has. */
+        private static Stroke[] chosen(Stroke[] list, int size, int of) {
+            int many = 0;
             for (int i = 0; i < size; i++) {
-                strokes[i] = list[i];
+                many += hasHit(of, list[i].many) ? 1 : 0;
             }
+            Stroke[] own = new Stroke[many];
+            int next = 0;
+            for (int i = 0; i < size; i++) {
+                if (hasHit(of, list[i].many)) {
+                    own[next] = list[i];
+                    next++;
+                }
+            }
+            return own;
+        }
+
+        private static boolean hasHit(int hits, int many) {
+            return (hits >> (many - 1) & 1) == 1;
         }
 
         private static int bitOf(int place) {
             return place == NONE ? 0 : 1 << place;
         }
 
-        boolean isHit(int many) {
-            return (hits >> (many - 1) & 1) == 1;
-        }
-
+        /** Whether one of the strokes listed for this alley can be. */
         boolean allows(int state, Stroke stroke) {
-            return stroke.standsIn(state) && isHit(stroke.many) && (!ends || stroke.hasEndIn(state));
+            return (state & stroke.mask) == stroke.mask && (!ends || stroke.hasEndIn(state));
         }
 
         /** Null if it can't be. */
@@ -657,7 +671,7 @@ public final class SkittleRow {
             long left = 0;
             for (int many = 1; many <= HITS && many <= n; many++) {
                 int rest = n - many;
-                for (int before = 0; before <= rest && isHit(many); before++) {
+                for (int before = 0; before <= rest && hasHit(hits, many); before++) {
                     if (!ends || before == 0 || before == rest) {
                         left |= 1L << (plainWorths[before] ^ plainWorths[rest - before]);
                     }
@@ -708,7 +722,7 @@ public final class SkittleRow {
         private long ringLeavings(int size) {
             long left = 0;
             for (int many = 1; many <= HITS && many <= size; many++) {
-                if (isHit(many) && (!ends || many == size)) {
+                if (hasHit(hits, many) && (!ends || many == size)) {
                     left |= 1L << plainWorths[size - many];
                 }
             }
@@ -1353,8 +1367,10 @@ public final class SkittleRow {
      * number, so that each table is filled upwards.
      */
     static final class Tables {
-        private Alley alley;
+        /** That of the last one asked for; an empty one at first, so that it is never null. */
+        private Alley alley = new Alley();
         private int ownLaw;
+        private int states;
         /** For each state the laws by which who is to play can win. */
         private final long[] winning = new long[STATES];
         private final int[] lengths = new int[STATES];
@@ -1369,12 +1385,14 @@ public final class SkittleRow {
         private boolean hasChances;
         private boolean hasClever;
 
+        /** What was reckoned stays as long as no other alley is asked for; without one nothing will be. */
         void use(Alley asked) {
-            if (asked == alley) {
+            if (asked == null || asked == alley) {
                 return;
             }
             alley = asked;
-            ownLaw = asked == null ? 0 : 4 * (asked.hits - 1) + 2 * asked.number(3) + asked.number(4);
+            states = 1 << asked.places;
+            ownLaw = 4 * (asked.hits - 1) + (asked.ends ? 2 : 0) + (asked.last ? 1 : 0);
             hasWinning = false;
             hasLengths = false;
             hasPlayCounts = false;
@@ -1382,16 +1400,12 @@ public final class SkittleRow {
             hasClever = false;
         }
 
-        private int states() {
-            return alley == null ? 0 : 1 << alley.places;
-        }
-
         private void fillWinning() {
-            for (int state = 0; state < states(); state++) {
+            for (int state = 0; state < states; state++) {
                 long can = 0;
                 long wins = 0;
-                for (Stroke stroke : alley.strokes) {
-                    if (stroke.standsIn(state)) {
+                for (Stroke stroke : alley.strokesOfAnyLaw) {
+                    if ((state & stroke.mask) == stroke.mask) {
                         long laws = stroke.hasEndIn(state) ? stroke.laws : stroke.laws & LAWS_WITHOUT_ENDS;
                         can |= laws;
                         wins |= laws & ~winning[state & ~stroke.mask];
@@ -1423,7 +1437,7 @@ public final class SkittleRow {
         }
 
         private void fillLengths() {
-            for (int state = 0; state < states(); state++) {
+            for (int state = 0; state < states; state++) {
                 boolean hastens = canWin(state);
                 int best = NONE;
                 for (Stroke stroke : alley.strokes) {
@@ -1446,7 +1460,7 @@ public final class SkittleRow {
         }
 
         private void fillPlayCounts() {
-            for (int state = 0; state < states(); state++) {
+            for (int state = 0; state < states; state++) {
                 boolean over = true;
                 long sum = 0;
                 for (Stroke stroke : alley.strokes) {
@@ -1468,8 +1482,8 @@ public final class SkittleRow {
         }
 
         private void fillChances() {
-            int over = alley != null && alley.last ? WHOLE : 0;
-            for (int state = 0; state < states(); state++) {
+            int over = alley.last ? WHOLE : 0;
+            for (int state = 0; state < states; state++) {
                 int best = NONE;
                 for (Stroke stroke : alley.strokes) {
                     if (alley.allows(state, stroke)) {
@@ -1492,8 +1506,8 @@ public final class SkittleRow {
         }
 
         private void fillClever() {
-            int over = alley != null && alley.last ? WHOLE : 0;
-            for (int state = 0; state < states(); state++) {
+            int over = alley.last ? WHOLE : 0;
+            for (int state = 0; state < states; state++) {
                 int best = 0;
                 int sum = 0;
                 int many = 0;

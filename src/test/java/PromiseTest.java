@@ -588,10 +588,11 @@ public final class PromiseTest {
         SkittleRow ring = Check.with("alley 0;row 1111;row 111;ring 1;hit 1;hit 4");
         Check.rule(ring, "stroke 1 if many=4 and runs=1 and longest=3 and alone=0");
         due("22: a ring that stands is one run", ring.match(0, 0, 1), 4);
-        SkittleRow told = Check.with("alley 0;row 1111;hit 1;hit 2;hit 4");
+        played("stroke 1 if place=1 or place=2", "alley 0;row 111111;hit 2", 2);
+        SkittleRow told = Check.with("alley 0;row 11111;hit 1;hit 2;hit 4");
         Check.rule(told, "stroke many if strokes=1");
         told.stroke(0, 1);
-        due("22: strokes played by hand count", told.match(0, 0, 1), 2);
+        due("22: strokes played by hand count", told.match(0, 0, 1), 1);
     }
 
     private static void matchSums() {
@@ -777,6 +778,7 @@ public final class PromiseTest {
         x.stroke(1, 2);
         due("30: back(0) once more", x.back(0), 1);
         due("30: standing", x.count(8), 6);
+        due("30: undo() behind a stroke", x.undo(), NONE);
         due("30: back to no alley", x.back(3), 0);
         due("30: won()", x.won(), NONE);
         due("30: x", x.count(11), 0);
