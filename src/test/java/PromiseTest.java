@@ -44,6 +44,8 @@ public final class PromiseTest {
         against();
         count();
         imageAndBack();
+        farOff(new SkittleRow());
+        farOff(Check.with("alley 0;row 111;row 11;ring 0"));
         Check.finish();
     }
 
@@ -785,5 +787,42 @@ public final class PromiseTest {
         due("30: rules stay", x.count(6), 1);
         due("30: and on", x.back(0), 1);
         due("30: won()", x.won(), 1);
+    }
+
+    /** Numbers at the ends of what an int holds are answered like any others that are not there. */
+    private static void farOff(SkittleRow x) {
+        Check.rule(x, "stroke 1");
+        int cannot = x.won() == NONE ? NONE : 0;
+        for (int far : new int[] {Integer.MIN_VALUE, Integer.MIN_VALUE + 1, -1000, 1000, Integer.MAX_VALUE - 1, Integer.MAX_VALUE}) {
+            due("far off: end", x.end(far), NONE);
+            due("far off: place", x.place(far, 0), NONE);
+            due("far off: place what", x.place(0, far), NONE);
+            due("far off: can", x.can(far, 1), cannot);
+            due("far off: can many", x.can(0, far), cannot);
+            due("far off: stroke", x.stroke(far, 1), NONE);
+            due("far off: stroke many", x.stroke(1, far), NONE);
+            due("far off: up", x.up(far), NONE);
+            due("far off: wins", x.wins(far), NONE);
+            due("far off: worth", x.worth(far), NONE);
+            due("far off: plain", x.plain(far), NONE);
+            due("far off: again", x.again(far), NONE);
+            due("far off: fair", x.fair(far), NONE);
+            due("far off: match", x.match(far, 0, 0), NONE);
+            due("far off: match other", x.match(0, far, 0), NONE);
+            due("far off: match what", x.match(0, 0, far), NONE);
+            due("far off: knew", x.knew(far, 0), NONE);
+            due("far off: knew what", x.knew(0, far), NONE);
+            due("far off: law", x.law(far, 0), NONE);
+            due("far off: law what", x.law(0, far), NONE);
+            due("far off: games", x.games(far, 0), NONE);
+            due("far off: games what", x.games(1, far), NONE);
+            due("far off: against", x.against(far, 1, 0), NONE);
+            due("far off: against m", x.against(0, far, 0), NONE);
+            due("far off: against what", x.against(0, 1, far), NONE);
+            due("far off: count", x.count(far), NONE);
+            due("far off: image", x.image(far), NONE);
+            due("far off: back", x.back(far), NONE);
+        }
+        due("far off: nothing happened", x.count(9) + x.count(10), 0);
     }
 }
