@@ -947,7 +947,7 @@ public final class SkittleRow {
                 told.rowFirst[told.rows] = told.places;
                 told.rows++;
             }
-            while (text.sound() && isPlace(text.look())) {
+            for (int i = 0; i < TAPE_BYTES && text.sound() && isPlace(text.look()); i++) {
                 if (told.places >= PLACES_MOST) {
                     text.refuse(text.at, FAULT_MANY);
                 }
@@ -1048,7 +1048,10 @@ public final class SkittleRow {
                 return;
             }
             if (!opens && !isNot) {
-                readComparison();
+                readSum();
+                int sign = readSign();
+                readSum();
+                put(sign);
             } else if (depth >= RULE_DEPTH) {
                 text.refuse(text.at, FAULT_DEEP);
             } else if (isNot) {
@@ -1061,15 +1064,6 @@ public final class SkittleRow {
                 if (!text.takes(']')) {
                     text.refuse(text.at, FAULT_SIGN);
                 }
-            }
-        }
-
-        private void readComparison() {
-            readSum();
-            int sign = readSign();
-            if (text.sound()) {
-                readSum();
-                put(sign);
             }
         }
 
