@@ -13,6 +13,7 @@ public final class AskEdgeTest {
     public static void main(String[] args) {
         over();
         nothingChanges();
+        otherAlleys();
         won();
         wins();
         worth();
@@ -109,6 +110,28 @@ public final class AskEdgeTest {
         due("acts", x.undo(), 1);
     }
 
+    private static void otherAlleys() {
+        says("is the ALLEY in place of the one there was");
+        String[] alleys = {
+            "alley 0;row 11111;stray 30", "alley 0;row 111;row 11;ring 0;stray 5", "alley 1;row 11111;last", "alley 0;row 11111;ends;hit 3;hit 1",
+            "alley 0", "alley 0;row 111110111111;hit 2;stray 99"
+        };
+        SkittleRow x = new SkittleRow();
+        Check.rule(x, "stroke won*10-many");
+        for (String alley : alleys) {
+            SkittleRow fresh = Check.with(alley);
+            Check.rule(fresh, "stroke won*10-many");
+            Check.alley(x, alley);
+            due(alley, askAll(x), askAll(fresh));
+            x.image(1);
+            Check.alley(x, "alley 1;row 1111;hit 1;stray 50");
+            due("another between", x.won() + x.lasts() + x.plays(), 0 + 4 + 24);
+            due("another between, chances", x.chance() + x.child(), 5000 + 0);
+            x.back(1);
+            due(alley + ", gone back to", askAll(x), askAll(fresh));
+        }
+    }
+
     private static long askAll(SkittleRow x) {
         int[] answers = {
             x.place(3, 3), x.can(3, 2), x.won(), x.wins(0), x.wins(1), x.wins(2), x.worth(0), x.worth(1), x.plain(12),
@@ -133,6 +156,12 @@ public final class AskEdgeTest {
         due("nothing strays", Check.with("alley 0;row 11;hit 1;stray 100").won(), 0);
         due("all twelve", Check.with("alley 0;row 111111111111").won(), 1);
         due("a ring of twelve", Check.with("alley 0;row 111111111111;ring 0").won(), 0);
+        for (int n = 1; n <= 12; n++) {
+            String row = "alley 0;ends;row " + "1".repeat(n);
+            due(n + " by ends", Check.with(row).won(), n % 3 == 0 ? 0 : 1);
+            due(n + " by ends and last", Check.with(row + ";last").won(), n % 3 == 1 ? 0 : 1);
+            due(n + " by 1 to 4 and ends", Check.with(row + ";hit 1;hit 2;hit 3;hit 4").won(), n % 5 == 0 ? 0 : 1);
+        }
         says("0: it can't, 1: it can, 2: it can, and wins");
         SkittleRow x = Check.with("alley 0;row 111");
         due("can(0, 1)", x.can(0, 1), 1);
@@ -181,6 +210,9 @@ public final class AskEdgeTest {
         due("of twelve", Check.with("alley 0;row 111111111111").worth(0), 4);
         due("of a ring of twelve", Check.with("alley 0;row 111111111111;ring 0").worth(0), 0);
         due("of a ring with one gap", Check.with("alley 0;row 111110111111;ring 0").worth(0), 6);
+        due("of a ring without its first", Check.with("alley 0;row 0111;ring 0").worth(0), 3);
+        due("of a ring without its last", Check.with("alley 0;row 1110;ring 0").worth(0), 3);
+        due("of a ring by 1, 2 and 3", Check.with("alley 0;row 111;ring 0;hit 1;hit 2;hit 3").worth(0), 3);
         due("of a ring across its ends", Check.with("alley 0;row 1101;ring 0").worth(0), 3);
         due("of the same as a row", Check.with("alley 0;row 1101").worth(0), 2 ^ 1);
         due("of a ring knocked down as a whole", Check.with("alley 0;row 1111;ring 0;hit 4;ends").worth(0), 1);

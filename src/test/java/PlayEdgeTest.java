@@ -25,6 +25,7 @@ public final class PlayEdgeTest {
         twoRules();
         words();
         sums();
+        facts();
         counts();
         images();
         backs();
@@ -339,6 +340,10 @@ public final class PlayEdgeTest {
     private static void words() {
         says("runs (runs of standing ones side by side behind it, in all ROWS; a ring that stands whole is one), longest (of these the longest; 0), alone (runs of one skittle behind it)");
         holds("runs=0 and longest=0 and alone=0");
+        plays("stroke 1 if runs=0", FOUR, 1);
+        plays("stroke 1 if longest=0", FOUR, 1);
+        plays("stroke 1 if alone=0", FOUR, 3);
+        plays("stroke 1 if many=4 and runs=1 and longest=2", "alley 0;row 1111;row 011;ring 1;hit 1;hit 4", 3);
         plays("stroke 1 if many=4 and runs=2 and alone=2 and longest=1", "alley 0;row 1111;row 1;row 1;hit 1;hit 4", 3);
         plays("stroke 1 if many=4 and runs=1 and longest=3 and alone=0", "alley 0;row 1111;row 111;ring 1;hit 1;hit 4", 4);
         plays("stroke 1 if many=4 and runs=1 and longest=3 and alone=0", "alley 0;row 1111;row 1101;ring 1;hit 1;hit 4", 4);
@@ -392,6 +397,28 @@ public final class PlayEdgeTest {
         holds(least + "/1=" + least);
         fails(least + "+1>0");
         fails("99999*99999*99999*99999*2>0");
+    }
+
+    private static void facts() {
+        says("TEST: PART { or PART }. PART: FACT { and FACT }. FACT: not FACT | [ TEST ] (these brackets are signs) | SUM SIGN SUM");
+        String[] signs = {"<", "<=", "=", ">=", ">"};
+        boolean[][] hold = {{true, true, false, false, false}, {false, true, true, true, false}, {false, false, false, true, true}};
+        for (int sign = 0; sign < signs.length; sign++) {
+            for (int left = 3; left <= 5; left++) {
+                String fact = left + signs[sign] + "4";
+                plays("stroke 1 if many=4 and " + fact, FOUR, hold[left - 3][sign] ? 1 : 4);
+                plays("stroke 1 if many=4 and not " + fact, FOUR, hold[left - 3][sign] ? 4 : 1);
+                plays("stroke 1 if " + fact + " and many=4 and " + fact, FOUR, hold[left - 3][sign] ? 1 : 4);
+                plays("stroke 1 if many=4 and [" + fact + " or 1=2]", FOUR, hold[left - 3][sign] ? 1 : 4);
+            }
+        }
+        plays("stroke 1 if not many<4", FOUR, 1);
+        plays("stroke 1 if not not many=4", FOUR, 1);
+        plays("stroke 1 if not many=1 and not many=2 and not many=3", FOUR, 1);
+        plays("stroke 1 if not [many=1 or many=2 or many=3]", FOUR, 1);
+        plays("stroke 1 if many=4 or many=1 and many=2", FOUR, 1);
+        plays("stroke 1 if [many=4 or many=1] and many=1", FOUR, 4);
+        plays("stroke 1 if many=1 and many=2 or many=4", FOUR, 1);
     }
 
     private static void counts() {
@@ -468,6 +495,13 @@ public final class PlayEdgeTest {
         x.stroke(2, 1);
         due("twice", x.back(1), 1);
         dueCounts(x, 6, 2, 5, 1, 1, 8, 1, 0, 0b111100, 1, 0, 70, 20);
+        int[] laws = {x.law(1, 0), x.law(1, 1), x.law(1, 2), x.law(1, 3)};
+        Check.alley(x, "alley 1;row 111111;hit 3;hit 2");
+        x.stroke(0, 3);
+        x.back(1);
+        for (int what = 0; what < laws.length; what++) {
+            due("law(1, " + what + ") of what was noted then", x.law(1, what), laws[what]);
+        }
         due("what is reckoned is that of this alley", x.lasts(), Check.with("alley 0;row 001;row 111;ring 1;hit 1;hit 3;ends;last").lasts());
     }
 }

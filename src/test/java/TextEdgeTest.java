@@ -374,6 +374,21 @@ public final class TextEdgeTest {
         noRule("stroke 1 if 1=1 andwon=1", 16, 0);
         noRule("stroke 1 if 1=1 orwon=1", 16, 0);
         isAlley("alley1;row1;hit2;stray3", 1);
+        for (String word : "alley row ring hit ends last stray".split(" ")) {
+            String text = word.equals("alley") ? "" : "alley 0;row 111;";
+            noAlley(text + "x" + word.substring(1) + " 1", text.length(), 0);
+            noAlley(text + word.substring(0, word.length() - 1) + "x 1", text.length(), 0);
+            noAlley(text + word + "a 1", text.length(), 0);
+            noAlley(text + word + "z 1", text.length(), 0);
+        }
+        for (String word : "place many row standing left runs longest alone won turn strokes".split(" ")) {
+            isRule("stroke " + word);
+            isRule("stroke 1 if " + word + "=" + word);
+            noRule("stroke x" + word.substring(1), 7, 0);
+            noRule("stroke " + word.substring(0, word.length() - 1) + "x", 7, 0);
+            noRule("stroke " + word + "a", 7, 0);
+            noRule("stroke " + word + "z", 7, 0);
+        }
         noAlley("alleyx", 0, 0);
         noAlley("alle", 0, 0);
         noAlley("alley 0;endslast", 8, 0);
