@@ -213,6 +213,8 @@ public final class AskEdgeTest {
         due("of a ring without its first", Check.with("alley 0;row 0111;ring 0").worth(0), 3);
         due("of a ring without its last", Check.with("alley 0;row 1110;ring 0").worth(0), 3);
         due("of a ring by 1, 2 and 3", Check.with("alley 0;row 111;ring 0;hit 1;hit 2;hit 3").worth(0), 3);
+        due("of a ring of three by 4", Check.with("alley 0;row 111;ring 0;hit 4").worth(0), 0);
+        due("of a ring of three by 3 and 4", Check.with("alley 0;row 111;ring 0;hit 3;hit 4").worth(0), 1);
         due("of a ring across its ends", Check.with("alley 0;row 1101;ring 0").worth(0), 3);
         due("of the same as a row", Check.with("alley 0;row 1101").worth(0), 2 ^ 1);
         due("of a ring knocked down as a whole", Check.with("alley 0;row 1111;ring 0;hit 4;ends").worth(0), 1);

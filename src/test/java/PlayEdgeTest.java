@@ -295,6 +295,8 @@ public final class PlayEdgeTest {
         plays("stroke 5 if many=4;stroke 9 if many=4;stroke 5", FOUR, 4);
         plays("stroke 0-5 if many<4", FOUR, 1);
         plays("stroke 5 if many=5", FOUR, 4);
+        plays("stroke 5 if many=5" + ";stroke 5 if many=5".repeat(11), FOUR, 4);
+        plays("stroke 0-5 if many<4" + ";stroke 9 if many=5".repeat(11), FOUR, 1);
         plays("stroke 1 if many>=3", FOUR, 2);
         plays("stroke 65536*65536*many", FOUR, 1);
         plays("stroke 65536*65536*65536*32768", FOUR, 4);
@@ -342,6 +344,8 @@ public final class PlayEdgeTest {
         holds("runs=0 and longest=0 and alone=0");
         plays("stroke 1 if runs=0", FOUR, 1);
         plays("stroke 1 if longest=0", FOUR, 1);
+        plays("stroke runs", "alley 0;row 111111111111;hit 1", 12);
+        plays("stroke longest", "alley 0;row 111111111111;ring 0;hit 1", 12);
         plays("stroke 1 if alone=0", FOUR, 3);
         plays("stroke 1 if many=4 and runs=1 and longest=2", "alley 0;row 1111;row 011;ring 1;hit 1;hit 4", 3);
         plays("stroke 1 if many=4 and runs=2 and alone=2 and longest=1", "alley 0;row 1111;row 1;row 1;hit 1;hit 4", 3);
